@@ -94,6 +94,7 @@ public final class FoldDeeds {
 
     /** Of the strip of eight there are 1392 stacks, of a shorter one fewer. */
     private static final int MOST_STACKS = 1392;
+    private static final int MORE_THAN_ANY = 2147483647;
     private static final int KIND_BITS = 7;
     private static final int KIND_ROWS = 128;
 
@@ -367,7 +368,8 @@ public final class FoldDeeds {
         }
         int most = CANNOT;
         int dearestFold = CANNOT;
-        for (int fold = 0; fold < now.foldCount(); fold++) {
+        int many = now.foldCount();
+        for (int fold = 0; fold < many; fold++) {
             int coins = market.quote(now, ruleInForce(), person, fold);
             if (coins > most) {
                 most = coins;
@@ -626,7 +628,7 @@ public final class FoldDeeds {
         }
 
         boolean atDigit() {
-            return isDigit(at);
+            return at < size && isDigit(bytes[at]);
         }
 
         boolean takeSign(char sign) {
@@ -672,7 +674,7 @@ public final class FoldDeeds {
         int takeNumber(int least, int most) {
             int start = at;
             int value = 0;
-            while (isDigit(at)) {
+            while (at < size && isDigit(bytes[at])) {
                 if (at - start < NUMBER_DIGITS) {
                     value = 10 * value + bytes[at] - '0';
                 }
@@ -725,8 +727,8 @@ public final class FoldDeeds {
             return NONE;
         }
 
-        private boolean isDigit(int place) {
-            return place >= 0 && place < size && bytes[place] >= '0' && bytes[place] <= '9';
+        private static boolean isDigit(int sign) {
+            return sign >= '0' && sign <= '9';
         }
 
         private void passBlanks() {
@@ -1442,7 +1444,8 @@ public final class FoldDeeds {
             if (depth + 1 >= levels.length) {
                 return;
             }
-            for (int fold = 0; fold < here.foldCount(); fold++) {
+            int many = here.foldCount();
+            for (int fold = 0; fold < many; fold++) {
                 if ((fold & 2) == 0 && here.keepsToMarks(marks, fold)) {
                     row[depth] = fold;
                     levels[depth + 1].lieFolded(here, fold);
@@ -1476,7 +1479,8 @@ public final class FoldDeeds {
             }
             Cloth here = levels[depth];
             int missing = wanted & ~here.cellsOf(person);
-            for (int fold = 0; fold < here.foldCount(); fold++) {
+            int many = here.foldCount();
+            for (int fold = 0; fold < many; fold++) {
                 if (folds == 1 && (missing & ~here.movedCells(fold)) != 0) {
                     continue;
                 }
@@ -1509,50 +1513,56 @@ public final class FoldDeeds {
         private int cells = 0;
         /** The layer of each cell, while a stack grows. */
         private final int[] layer = new int[MOST_CELLS];
+        /** By the hills of a stack, or by 8 * cell + layer: how many. */
         private final int[] tally = new int[KIND_ROWS];
-        /** Marks: which joints must be of a kind, and which of these hills. */
-        private int markedJoints = 0;
-        private int markedHills = 0;
-        /** How many stacks keep to the marks. */
+        /** How many stacks keep to the marks, and the first of them. */
         int chosen = 0;
+        private int first = 0;
 
+        /** Takes the stacks that keep to the marks, and counts them by the layer of each cell. */
         void choose(int newCells, int[] marks) {
             makeRows(newCells);
-            markedJoints = 0;
-            markedHills = 0;
-            for (int j = 0; j < cells - 1 && j < marks.length; j++) {
-                if (marks[j] != 0) {
-                    markedJoints |= 1 << j;
-                }
-                if (marks[j] == HILL) {
-                    markedHills |= 1 << j;
+            clearTally();
+            int joints = markedAs(marks, VALLEY) | markedAs(marks, HILL);
+            int hills = markedAs(marks, HILL);
+            chosen = 0;
+            first = MORE_THAN_ANY;
+            for (int i = 0; i < rowCount; i++) {
+                if ((rows[i] & joints) == hills) {
+                    chosen++;
+                    first = Math.min(first, rows[i]);
+                    countLayers(rows[i]);
                 }
             }
-            chosen = 0;
-            for (int i = 0; i < rowCount; i++) {
-                if (keepsToMarks(rows[i])) {
-                    chosen++;
+        }
+
+        private int markedAs(int[] marks, int kind) {
+            int bits = 0;
+            for (int j = 0; j < cells - 1 && j < marks.length; j++) {
+                if (marks[j] == kind) {
+                    bits |= 1 << j;
                 }
+            }
+            return bits;
+        }
+
+        private void countLayers(int stack) {
+            for (int at = 0; at < cells; at++) {
+                tally[MOST_CELLS * cellAt(stack, at) + at]++;
             }
         }
 
         /** The cell in a layer of the first chosen stack. */
         int firstAt(int layerAsked) {
-            int least = Integer.MAX_VALUE;
-            for (int i = 0; i < rowCount; i++) {
-                if (keepsToMarks(rows[i]) && rows[i] < least) {
-                    least = rows[i];
-                }
-            }
-            return cellAt(least, layerAsked);
+            return cellAt(first, layerAsked);
         }
 
         /** The layers in which a cell lies in chosen stacks, as bits. */
         int layersOf(int cell) {
             int bits = 0;
-            for (int i = 0; i < rowCount; i++) {
-                if (keepsToMarks(rows[i])) {
-                    bits |= 1 << layerIn(rows[i], cell);
+            for (int at = 0; at < cells; at++) {
+                if (countOf(MOST_CELLS * cell + at) > 0) {
+                    bits |= 1 << at;
                 }
             }
             return bits;
@@ -1561,11 +1571,8 @@ public final class FoldDeeds {
         /** The cell by whose layer the chosen stacks part best. */
         int bestCell() {
             int best = 0;
-            int fewest = Integer.MAX_VALUE;
-            for (int cell = 0; cell < cells; cell++) {
-                int alike = mostAlike(cell);
-                if (alike < fewest) {
-                    fewest = alike;
+            for (int cell = 1; cell < cells; cell++) {
+                if (mostAlike(cell) < mostAlike(best)) {
                     best = cell;
                 }
             }
@@ -1574,14 +1581,9 @@ public final class FoldDeeds {
 
         /** How many chosen stacks at most have the cell in one layer. */
         int mostAlike(int cell) {
-            clearTally();
             int most = 0;
-            for (int i = 0; i < rowCount; i++) {
-                if (keepsToMarks(rows[i])) {
-                    int at = layerIn(rows[i], cell);
-                    tally[at]++;
-                    most = Math.max(most, tally[at]);
-                }
+            for (int at = 0; at < cells; at++) {
+                most = Math.max(most, countOf(MOST_CELLS * cell + at));
             }
             return most;
         }
@@ -1602,8 +1604,8 @@ public final class FoldDeeds {
             return best;
         }
 
-        int countOf(int hills) {
-            return hills >= 0 && hills < KIND_ROWS ? tally[hills] : 0;
+        int countOf(int number) {
+            return number >= 0 && number < KIND_ROWS ? tally[number] : 0;
         }
 
         private void clearTally() {
@@ -1612,25 +1614,12 @@ public final class FoldDeeds {
             }
         }
 
-        private boolean keepsToMarks(int stack) {
-            return (stack & markedJoints) == markedHills;
-        }
-
         private static int cellAt(int stack, int layerAsked) {
             return (stack >> shiftOf(layerAsked)) & 7;
         }
 
         private static int shiftOf(int layerAsked) {
             return KIND_BITS + 3 * (MOST_CELLS - 1 - layerAsked);
-        }
-
-        private int layerIn(int stack, int cell) {
-            for (int at = 0; at < cells; at++) {
-                if (cellAt(stack, at) == cell) {
-                    return at;
-                }
-            }
-            return 0;
         }
 
         private void makeRows(int newCells) {

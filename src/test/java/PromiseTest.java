@@ -371,7 +371,7 @@ public final class PromiseTest {
         due(9, "PURSE", x.person(0, 0), 0);
     }
 
-    private static void fullPurse() {
+    private static void paying() {
         FoldDeeds x = cloth("cloth 8;person 999;person 999;person 999;person 999;owner 0 0;owner 1 0;owner 2 0"
                 + ";owner 3 0;owner 4 0;owner 5 0;owner 6 0;owner 7 0");
         tellRule(x, "price purse / 7 if moved = 7;price purse;price 0");
@@ -702,7 +702,7 @@ public final class PromiseTest {
         prices();
         folding();
         foldingFar();
-        fullPurse();
+        paying();
         otherActs();
         marks();
         stacking();
