@@ -139,10 +139,10 @@ public final class FoldDeeds {
 
     public int cloth() {
         int fault = clothReader.read(tape);
+        tape.size = 0;
         if (fault != 0) {
             return -2 - fault;
         }
-        tape.size = 0;
         sheet.begin(clothReader.draft);
         past.forget();
         return sheet.now.cells;
@@ -153,10 +153,10 @@ public final class FoldDeeds {
             return NONE;
         }
         int fault = ruleReader.read(tape);
+        tape.size = 0;
         if (fault != 0) {
             return -2 - fault;
         }
-        tape.size = 0;
         rules[ruleCount] = ruleReader.made();
         ruleCount++;
         return ruleCount - 1;

@@ -543,9 +543,10 @@ final class Oracle {
     }
 
     int cloth() {
+        String text = tape;
+        tape = "";
         try {
-            Lie lie = new Parser(tape).cloth();
-            tape = "";
+            Lie lie = new Parser(text).cloth();
             world.lie = lie;
             world.told = lie.copy();
             world.marks = new int[8];
@@ -561,9 +562,10 @@ final class Oracle {
         if (rules.size() == 6) {
             return NONE;
         }
+        String text = tape;
+        tape = "";
         try {
-            rules.add(new Parser(tape).rule());
-            tape = "";
+            rules.add(new Parser(text).rule());
             return rules.size() - 1;
         } catch (Fault f) {
             return -2 - f.code;

@@ -45,7 +45,7 @@ public final class PromiseTest {
         FoldDeeds x = cloth(FOUR);
         put(x, text);
         due(4, "cloth() of '" + text + "'", x.cloth(), -2 - (1 + 8 * place + kind));
-        due(4, "the tape after '" + text + "'", x.count(11), text.length());
+        due(4, "the tape after '" + text + "'", x.count(11), 0);
         due(4, "the cloth after '" + text + "'", x.count(0), 4);
         due(4, "the people after '" + text + "'", x.count(1), 2);
     }
@@ -54,7 +54,41 @@ public final class PromiseTest {
         FoldDeeds x = new FoldDeeds();
         due(5, "rule() of '" + text + "'", tellRule(x, text), -2 - (1 + 8 * place + kind));
         due(5, "the rules after '" + text + "'", x.count(3), 0);
-        due(5, "the tape after '" + text + "'", x.count(11), text.length());
+        due(5, "the tape after '" + text + "'", x.count(11), 0);
+    }
+
+    /** A text with a fault is gone, as any text that was read; all but the tape stays. */
+    private static void tapeBehindFaults() {
+        FoldDeeds x = cloth(FOUR);
+        x.mark(1, 2);
+        x.log(0, 0, 0, 5);
+        x.give(0, 1);
+        x.seed(77);
+        tellRule(x, "price 2");
+        x.force(0);
+        put(x, "cloth 5;person 1;person 1;person 1;owner 9 9");
+        due(4, "cloth() of a cloth with no such cell", x.cloth(), -2 - (1 + 8 * 41 + 1));
+        due(4, "bytes of the tape", x.count(11), 0);
+        due(3, "end(1) of it", x.end(1), -1);
+        int[] counts = {4, 2, 4, 1, 0, 0};
+        for (int what = 0; what < counts.length; what++) {
+            due(4, "count(" + what + ") behind a fault", x.count(what), counts[what]);
+        }
+        due(4, "LOGS behind a fault", x.count(8), 1);
+        due(4, "what can be undone behind a fault", x.count(9), 1);
+        due(4, "x behind a fault", x.count(10), 77);
+        due(4, "a MARK behind a fault", x.joint(1, 1), 2);
+        due(2, "feed behind a fault", x.feed(0, 0, 0, 0, 0), 20);
+        due(5, "rule() of zeros", x.rule(), -3);
+        due(5, "RULES behind a fault", x.count(3), 1);
+        due(5, "the RULE IN FORCE behind a fault", x.count(4), 0);
+        due(2, "feed behind a rule's fault", x.feed(0, 0, 0, 0, 0), 20);
+        due(4, "cloth() of zeros", x.cloth(), -3);
+        due(4, "cloth() of nothing", x.cloth(), -3);
+        due(5, "rule() of nothing", x.rule(), -3);
+        due(5, "the next rule's number", tellRule(x, "price 3"), 1);
+        put(x, "cloth 3");
+        due(4, "the next cloth", x.cloth(), 3);
     }
 
     private static void newObject() {
@@ -229,6 +263,7 @@ public final class PromiseTest {
         due(5, "the tape after it", x.count(11), 7);
         put(x, "price");
         due(5, "a seventh with a fault", x.rule(), -1);
+        due(5, "the tape after it", x.count(11), 5);
         due(30, "RULES", x.count(3), 6);
     }
 
@@ -695,6 +730,7 @@ public final class PromiseTest {
     public static void main(String[] args) {
         newObject();
         tape();
+        tapeBehindFaults();
         clothTexts();
         clothInPlace();
         ruleTexts();
