@@ -342,7 +342,7 @@ public final class FoldDeeds {
 
     public int own(int person, int cells, int what) {
         Cloth now = sheet.now;
-        if (!now.hasPerson(person) || cells < 0 || cells >= 1 << now.cells
+        if (!now.hasPerson(person) || cells < 1 || cells >= 1 << now.cells
                 || what < NONE || what >= OWN_FOLDS) {
             return UNASKED;
         }

@@ -878,7 +878,7 @@ final class Oracle {
     }
 
     int own(int person, int cells, int what) {
-        if (!has(person, people()) || cells < 0 || cells >> world.lie.cells != 0 || what < NONE || what > 2) {
+        if (!has(person, people()) || cells <= 0 || cells >> world.lie.cells != 0 || what < NONE || what > 2) {
             return -3;
         }
         List<Integer> row = null;

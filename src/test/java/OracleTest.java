@@ -247,7 +247,7 @@ public final class OracleTest {
             case 5 -> same("peek(" + s + ")", x.peek(s), y.peek(s));
             case 6 -> same("richest(" + s + ")", x.richest(s), y.richest(s));
             case 7, 8 -> {
-                int set = below(30) == 0 ? new int[] {-1, 1 << cells, 256}[below(3)] : below(1 << cells);
+                int set = below(30) == 0 ? new int[] {-1, 1 << cells, 256, 0}[below(4)] : below(1 << cells);
                 int what = below(5) - 1;
                 if (cells < 8 || below(6) == 0) {
                     same("own(" + a + ", " + set + ", " + what + ")", x.own(a, set, what), y.own(a, set, what));

@@ -550,16 +550,19 @@ public final class PromiseTest {
 
     private static void owning() {
         FoldDeeds x = cloth("cloth 3;person 10;person 2");
-        int[][] asks = {{0, 7, -1, 2}, {0, 7, 0, 0}, {0, 7, 1, 0}, {0, 7, 2, -2}, {0, 0, -1, 0}, {0, 0, 0, -2},
+        int[][] asks = {{0, 7, -1, 2}, {0, 7, 0, 0}, {0, 7, 1, 0}, {0, 7, 2, -2}, {0, 0, -1, -3}, {0, 0, 0, -3},
             {0, 6, -1, 1}, {0, 6, 0, 0}, {0, 1, -1, 1}, {0, 1, 0, 2}, {1, 7, -1, -2}, {1, 7, 0, -2}, {1, 3, -1, 1},
             {1, 3, 0, 6}, {0, 8, -1, -3}, {0, -1, -1, -3}, {2, 1, -1, -3}, {-1, 1, -1, -3}, {0, 1, 3, -3},
-            {0, 1, -2, -3}};
+            {0, 1, -2, -3}, {0, 0, 1, -3}, {0, 0, 2, -3}, {1, 0, -1, -3}, {0, Integer.MIN_VALUE, -1, -3},
+            {0, Integer.MAX_VALUE, -1, -3}, {0, 16, 0, -3}};
         for (int[] a : asks) {
             due(22, "own(" + a[0] + ", " + a[1] + ", " + a[2] + ")", x.own(a[0], a[1], a[2]), a[3]);
         }
         due(22, "nothing changes", x.count(7), 7);
         x.fold(0, 0, 0, 0);
         due(22, "own what is theirs", x.own(0, 6, -1), 0);
+        due(22, "own what is theirs", x.own(0, 6, 0), -2);
+        due(22, "own no cell", x.own(0, 0, -1), -3);
         due(22, "own from now on", x.own(0, 7, -1), 1);
         due(22, "own from now on", x.own(0, 7, 0), 0);
     }
