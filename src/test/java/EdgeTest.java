@@ -14,16 +14,6 @@ public final class EdgeTest {
         "price worth*cell-owner/layer%way;price 3", "price 1 if not [cell=1 or way=0] and 0/0=0%0",
         "price 99999*99999*99999*99999*99999*99999/owner", "price", "cloth 8;owner"};
 
-    private static void put(FoldDeeds x, String text) {
-        byte[] b = java.util.Arrays.copyOf(text.getBytes(), (text.length() + 19) / 20 * 20);
-        java.nio.ByteBuffer all = java.nio.ByteBuffer.wrap(b);
-        x.end(0);
-        while (all.hasRemaining()) {
-            x.feed(all.getInt(), all.getInt(), all.getInt(), all.getInt(), all.getInt());
-        }
-        x.end(text.length());
-    }
-
     public static void main(String[] args) throws Exception {
         List<Method> methods = new ArrayList<>();
         for (Method m : FoldDeeds.class.getDeclaredMethods()) {
@@ -38,7 +28,7 @@ public final class EdgeTest {
             FoldDeeds x = new FoldDeeds();
             for (int i = 0; i < 512; i++) {
                 if (random.nextInt(25) == 0) {
-                    put(x, TEXTS[random.nextInt(TEXTS.length)]);
+                    Told.put(x, TEXTS[random.nextInt(TEXTS.length)]);
                     int unused = random.nextBoolean() ? x.cloth() : x.rule();
                 }
                 Method m = methods.get(random.nextInt(methods.size()));

@@ -82,16 +82,6 @@ public final class FaceTest {
         check(!statics.find(), "static fields are final");
     }
 
-    private static void put(FoldDeeds x, String text) {
-        x.end(0);
-        byte[] b = java.util.Arrays.copyOf(text.getBytes(), (text.length() + 19) / 20 * 20);
-        java.nio.ByteBuffer all = java.nio.ByteBuffer.wrap(b);
-        while (all.hasRemaining()) {
-            x.feed(all.getInt(), all.getInt(), all.getInt(), all.getInt(), all.getInt());
-        }
-        x.end(text.length());
-    }
-
     /** Bytes made by the dearest calls: the room of a run has no way to give back. */
     private static void room() {
         var bean = (com.sun.management.ThreadMXBean) java.lang.management.ManagementFactory.getThreadMXBean();
@@ -101,9 +91,9 @@ public final class FaceTest {
         FoldDeeds x = new FoldDeeds();
         check(bean.getCurrentThreadAllocatedBytes() - before < 40_000, "a new object is small");
         kept.add(x);
-        put(x, "cloth 8;person 999;person 999;person 999;person 999");
+        Told.put(x, "cloth 8;person 999;person 999;person 999;person 999");
         x.cloth();
-        put(x, "price cell*cell-day if [cell>layer or not owner=buyer] and way<=1;price moved*width%7");
+        Told.put(x, "price cell*cell-day if [cell>layer or not owner=buyer] and way<=1;price moved*width%7");
         x.rule();
         x.force(0);
         use(x, 25);

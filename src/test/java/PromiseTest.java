@@ -15,35 +15,9 @@ public final class PromiseTest {
         }
     }
 
-    private static void put(FoldDeeds x, String text) {
-        x.end(0);
-        for (int i = 0; i < text.length(); i += 20) {
-            int[] n = new int[5];
-            for (int k = 0; k < 20; k++) {
-                n[k / 4] = n[k / 4] << 8 | (i + k < text.length() ? text.charAt(i + k) : 0);
-            }
-            x.feed(n[0], n[1], n[2], n[3], n[4]);
-        }
-        x.end(text.length());
-    }
-
-    private static FoldDeeds cloth(String text) {
-        FoldDeeds x = new FoldDeeds();
-        put(x, text);
-        if (x.cloth() < 2) {
-            throw new IllegalStateException("not a cloth: " + text);
-        }
-        return x;
-    }
-
-    private static int tellRule(FoldDeeds x, String text) {
-        put(x, text);
-        return x.rule();
-    }
-
     private static void clothFault(String text, int place, int kind) {
-        FoldDeeds x = cloth(FOUR);
-        put(x, text);
+        FoldDeeds x = Told.clothOf(FOUR);
+        Told.put(x, text);
         due(4, "cloth() of '" + text + "'", x.cloth(), -2 - (1 + 8 * place + kind));
         due(4, "the tape after '" + text + "'", x.count(11), 0);
         due(4, "the cloth after '" + text + "'", x.count(0), 4);
@@ -52,21 +26,21 @@ public final class PromiseTest {
 
     private static void ruleFault(String text, int place, int kind) {
         FoldDeeds x = new FoldDeeds();
-        due(5, "rule() of '" + text + "'", tellRule(x, text), -2 - (1 + 8 * place + kind));
+        due(5, "rule() of '" + text + "'", Told.rule(x, text), -2 - (1 + 8 * place + kind));
         due(5, "the rules after '" + text + "'", x.count(3), 0);
         due(5, "the tape after '" + text + "'", x.count(11), 0);
     }
 
     /** A text with a fault is gone, as any text that was read; all but the tape stays. */
     private static void tapeBehindFaults() {
-        FoldDeeds x = cloth(FOUR);
+        FoldDeeds x = Told.clothOf(FOUR);
         x.mark(1, 2);
         x.log(0, 0, 0, 5);
         x.give(0, 1);
         x.seed(77);
-        tellRule(x, "price 2");
+        Told.rule(x, "price 2");
         x.force(0);
-        put(x, "cloth 5;person 1;person 1;person 1;owner 9 9");
+        Told.put(x, "cloth 5;person 1;person 1;person 1;owner 9 9");
         due(4, "cloth() of a cloth with no such cell", x.cloth(), -2 - (1 + 8 * 41 + 1));
         due(4, "bytes of the tape", x.count(11), 0);
         due(3, "end(1) of it", x.end(1), -1);
@@ -86,8 +60,8 @@ public final class PromiseTest {
         due(4, "cloth() of zeros", x.cloth(), -3);
         due(4, "cloth() of nothing", x.cloth(), -3);
         due(5, "rule() of nothing", x.rule(), -3);
-        due(5, "the next rule's number", tellRule(x, "price 3"), 1);
-        put(x, "cloth 3");
+        due(5, "the next rule's number", Told.rule(x, "price 3"), 1);
+        Told.put(x, "cloth 3");
         due(4, "the next cloth", x.cloth(), 3);
     }
 
@@ -181,9 +155,9 @@ public final class PromiseTest {
         clothFault(forty + ";", 397 + 1, 0);
         clothFault("cloth2" + ";worth0 1".repeat(39) + ";worth0 1", 6 + 9 * 39 + 1, 4);
         clothFault("cloth2" + ";worth0 1".repeat(39) + ";wort 0 1", 6 + 9 * 39 + 1, 0);
-        FoldDeeds x = cloth(forty);
+        FoldDeeds x = Told.clothOf(forty);
         due(4, "forty clauses", x.count(0), 2);
-        x = cloth("  cloth  00005  ;  person  00999;worth 4 99;owner 3 0;owner 3 0;worth 4 98; crease 3 2;crease 3 1 ");
+        x = Told.clothOf("  cloth  00005  ;  person  00999;worth 4 99;owner 3 0;owner 3 0;worth 4 98; crease 3 2;crease 3 1 ");
         due(4, "CELLS", x.count(0), 5);
         due(4, "PURSE", x.person(0, 0), 999);
         due(4, "WORTH", x.cell(4, 4), 98);
@@ -195,14 +169,14 @@ public final class PromiseTest {
     }
 
     private static void clothInPlace() {
-        FoldDeeds x = cloth(FOUR);
-        tellRule(x, "price 0");
+        FoldDeeds x = Told.clothOf(FOUR);
+        Told.rule(x, "price 0");
         x.force(0);
         x.seed(77);
         x.mark(1, 2);
         x.log(0, 0, 0, 0);
         x.fold(0, 1, 0, 0);
-        put(x, "cloth 3;person 1");
+        Told.put(x, "cloth 3;person 1");
         due(4, "cloth()", x.cloth(), 3);
         due(4, "LOGS", x.count(8), 0);
         due(4, "MARK", x.joint(1, 1), 0);
@@ -250,18 +224,18 @@ public final class PromiseTest {
         ruleFault("price 1" + "+1".repeat(57) + " if 1=1", 7 + 114 + 6, 3);
         ruleFault("price 1" + "+1".repeat(57) + ";price 1;price 1;price 1", 7 + 114 + 23, 3);
         FoldDeeds x = new FoldDeeds();
-        due(5, "ten brackets", tellRule(x, "price 1 if " + "[".repeat(10) + "cell=1" + "]".repeat(10)), 0);
+        due(5, "ten brackets", Told.rule(x, "price 1 if " + "[".repeat(10) + "cell=1" + "]".repeat(10)), 0);
         due(5, "the tape after it", x.count(11), 0);
-        due(5, "ten nots, twice", tellRule(x, "price 1 if " + "not ".repeat(10) + "cell=1 and "
+        due(5, "ten nots, twice", Told.rule(x, "price 1 if " + "not ".repeat(10) + "cell=1 and "
                 + "not ".repeat(10) + "cell=1"), 1);
-        due(5, "twelve clauses", tellRule(x, "price 1" + ";price 1".repeat(11)), 2);
-        due(5, "sixty values", tellRule(x, "price 1" + "+1".repeat(59)), 3);
-        due(5, "sixty values and facts", tellRule(x, "price 1" + "+1".repeat(56) + " if 1=1"), 4);
-        due(5, "no blank", tellRule(x, " price1if[cell>=1]and not way=0or day=99999 ; price 00007 "), 5);
-        put(x, "price 1");
+        due(5, "twelve clauses", Told.rule(x, "price 1" + ";price 1".repeat(11)), 2);
+        due(5, "sixty values", Told.rule(x, "price 1" + "+1".repeat(59)), 3);
+        due(5, "sixty values and facts", Told.rule(x, "price 1" + "+1".repeat(56) + " if 1=1"), 4);
+        due(5, "no blank", Told.rule(x, " price1if[cell>=1]and not way=0or day=99999 ; price 00007 "), 5);
+        Told.put(x, "price 1");
         due(5, "a seventh", x.rule(), -1);
         due(5, "the tape after it", x.count(11), 7);
-        put(x, "price");
+        Told.put(x, "price");
         due(5, "a seventh with a fault", x.rule(), -1);
         due(5, "the tape after it", x.count(11), 5);
         due(30, "RULES", x.count(3), 6);
@@ -271,8 +245,8 @@ public final class PromiseTest {
         FoldDeeds x = new FoldDeeds();
         due(6, "force(0)", x.force(0), -2);
         due(6, "force(NONE)", x.force(-1), -1);
-        tellRule(x, "price 1");
-        tellRule(x, "price 2");
+        Told.rule(x, "price 1");
+        Told.rule(x, "price 2");
         due(6, "force(2)", x.force(2), -2);
         due(6, "force(-2)", x.force(-2), -2);
         due(6, "force(1)", x.force(1), -1);
@@ -283,12 +257,12 @@ public final class PromiseTest {
     }
 
     private static void price(String sum, int want) {
-        FoldDeeds x = cloth("cloth 4;person 30;person 5;owner 3 1;worth 3 7");
-        tellRule(x, "price 0");
+        FoldDeeds x = Told.clothOf("cloth 4;person 30;person 5;owner 3 1;worth 3 7");
+        Told.rule(x, "price 0");
         x.force(0);
         x.fold(0, 0, 1, 0);
         x.fold(0, 0, 1, 0);
-        tellRule(x, "price " + sum + " if cell = 3");
+        Told.rule(x, "price " + sum + " if cell = 3");
         x.force(1);
         due(16, "cost by 'price " + sum + "'", x.cost(0, 0, 1, 1), 0);
         due(16, "cost by 'price " + sum + "'", x.cost(0, 0, 0, 0), want);
@@ -319,8 +293,8 @@ public final class PromiseTest {
         price("99999*99999*99999*99999 % 1000", 921);
         price("99999*99999*99999*99999*99999 % 1000 + 1000", 415);
         price("99999*99999*99999*99999*99999 / 99999 / 99999 / 99999 + 400", 63);
-        FoldDeeds x = cloth("cloth 8;person 999;worth 7 9");
-        tellRule(x, "price 1 if cell = 1; price 2 if cell <= 2 or cell = 4 and cell > 4; price 4 if not [ cell < 6"
+        FoldDeeds x = Told.clothOf("cloth 8;person 999;worth 7 9");
+        Told.rule(x, "price 1 if cell = 1; price 2 if cell <= 2 or cell = 4 and cell > 4; price 4 if not [ cell < 6"
                 + " or cell = 7 ]; price 8 if cell >= 7; price 16 if cell = 3 and not cell > 3");
         x.force(0);
         due(16, "cost by clauses of 1 to 7", x.cost(0, 0, 0, 0), 1 + 2 + 16 + 0 + 0 + 4 + 8);
@@ -330,7 +304,7 @@ public final class PromiseTest {
     }
 
     private static void folding() {
-        FoldDeeds x = cloth(FOUR);
+        FoldDeeds x = Told.clothOf(FOUR);
         due(16, "cost(0, 1, 0, 0)", x.cost(0, 1, 0, 0), 7);
         due(16, "cost(1, 1, 0, 0)", x.cost(1, 1, 0, 0), 4);
         due(16, "cost(0, 1, 1, 0)", x.cost(0, 1, 1, 0), 0);
@@ -387,18 +361,18 @@ public final class PromiseTest {
 
     /** A part that reaches beyond the other one makes places on the left. */
     private static void foldingFar() {
-        FoldDeeds x = cloth("cloth 4;person 99");
+        FoldDeeds x = Told.clothOf("cloth 4;person 99");
         due(11, "fold(0, 0, 0, 0)", x.fold(0, 0, 0, 0), 3);
         seen(x, new int[] {2, 2, 1, 0}, new int[] {0, 1, 0, 0}, new int[] {1, 0, 0, 0});
         due(11, "fold(0, 0, 0, 1)", x.fold(0, 0, 0, 1), 1);
         due(8, "joint(2, 0)", x.joint(2, 0), 1);
         seen(x, new int[] {0, 0, 1, 1}, new int[] {1, 0, 0, 1}, new int[] {0, 1, 1, 0});
-        x = cloth("cloth 4;person 99");
+        x = Told.clothOf("cloth 4;person 99");
         due(11, "fold(0, 2, 1, 0)", x.fold(0, 2, 1, 0), 3);
         seen(x, new int[] {2, 1, 0, 0}, new int[] {0, 0, 1, 0}, new int[] {0, 0, 0, 1});
         due(8, "joint(2, 0)", x.joint(2, 0), 1);
         due(30, "nobody's", x.count(7), 8);
-        x = cloth("cloth 2;person 1;worth 1 2");
+        x = Told.clothOf("cloth 2;person 1;worth 1 2");
         due(11, "too dear", x.fold(0, 0, 0, 0), -1);
         due(16, "cost of it", x.cost(0, 0, 0, 0), 2);
         due(30, "DAY", x.count(5), 0);
@@ -407,20 +381,20 @@ public final class PromiseTest {
     }
 
     private static void paying() {
-        FoldDeeds x = cloth("cloth 8;person 999;person 999;person 999;person 999;owner 0 0;owner 1 0;owner 2 0"
+        FoldDeeds x = Told.clothOf("cloth 8;person 999;person 999;person 999;person 999;owner 0 0;owner 1 0;owner 2 0"
                 + ";owner 3 0;owner 4 0;owner 5 0;owner 6 0;owner 7 0");
-        tellRule(x, "price purse / 7 if moved = 7;price purse;price 0");
+        Told.rule(x, "price purse / 7 if moved = 7;price purse;price 0");
         x.force(0);
         due(11, "fold for all", x.fold(1, 0, 0, 0), 994);
         due(9, "PURSE 0", x.person(0, 0), 1993);
         due(9, "PURSE 1", x.person(1, 0), 5);
-        tellRule(x, "price 9999");
+        Told.rule(x, "price 9999");
         x.force(1);
         due(16, "held to 999", x.cost(2, 0, 1, 0), 999);
     }
 
     private static void otherActs() {
-        FoldDeeds x = cloth("cloth 3;person 5;person 6;owner 0 1;crease 0 1;crease 1 2");
+        FoldDeeds x = Told.clothOf("cloth 3;person 5;person 6;owner 0 1;crease 0 1;crease 1 2");
         due(14, "give(0, 1) to the same", x.give(0, 1), -1);
         due(14, "give(1, 0) of nobody's", x.give(1, 0), -1);
         due(14, "give(3, 0)", x.give(3, 0), -1);
@@ -471,7 +445,7 @@ public final class PromiseTest {
     }
 
     private static FoldDeeds marked(int cells, int... kinds) {
-        FoldDeeds x = cloth("cloth " + cells);
+        FoldDeeds x = Told.clothOf("cloth " + cells);
         for (int j = 0; j < kinds.length; j++) {
             x.mark(j, kinds[j]);
         }
@@ -486,7 +460,7 @@ public final class PromiseTest {
     }
 
     private static void marks() {
-        FoldDeeds x = cloth("cloth 3;person 9;crease 1 2");
+        FoldDeeds x = Told.clothOf("cloth 3;person 9;crease 1 2");
         due(17, "mark(2, 1)", x.mark(2, 1), -1);
         due(17, "mark(-1, 1)", x.mark(-1, 1), -1);
         due(17, "mark(0, 3)", x.mark(0, 3), -1);
@@ -534,7 +508,7 @@ public final class PromiseTest {
         due(21, "richest(-1)", x.richest(-1), -1);
         int[] known = {2, 6, 16, 50, 144, 462, 1392};
         for (int cells = 2; cells <= 8; cells++) {
-            due(19, "stacks of " + cells, cloth("cloth " + cells).stacks(-1), known[cells - 2]);
+            due(19, "stacks of " + cells, Told.clothOf("cloth " + cells).stacks(-1), known[cells - 2]);
         }
         x = marked(2, 0);
         due(20, "peek(0)", x.peek(0), 0);
@@ -549,7 +523,7 @@ public final class PromiseTest {
     }
 
     private static void owning() {
-        FoldDeeds x = cloth("cloth 3;person 10;person 2");
+        FoldDeeds x = Told.clothOf("cloth 3;person 10;person 2");
         int[][] asks = {{0, 7, -1, 2}, {0, 7, 0, 0}, {0, 7, 1, 0}, {0, 7, 2, -2}, {0, 0, -1, -3}, {0, 0, 0, -3},
             {0, 6, -1, 1}, {0, 6, 0, 0}, {0, 1, -1, 1}, {0, 1, 0, 2}, {1, 7, -1, -2}, {1, 7, 0, -2}, {1, 3, -1, 1},
             {1, 3, 0, 6}, {0, 8, -1, -3}, {0, -1, -1, -3}, {2, 1, -1, -3}, {-1, 1, -1, -3}, {0, 1, 3, -3},
@@ -570,11 +544,11 @@ public final class PromiseTest {
     private static void lasting() {
         int[] place = {0, -2, 0, 1, 2, -2, 0};
         for (int cells = 2; cells <= 8; cells++) {
-            FoldDeeds x = cloth("cloth " + cells + ";crease 0 2");
+            FoldDeeds x = Told.clothOf("cloth " + cells + ";crease 0 2");
             due(23, "last(0) of " + cells, x.last(0), place[cells - 2] < 0 ? 0 : 1);
             due(23, "last(1) of " + cells, x.last(1), place[cells - 2]);
         }
-        FoldDeeds x = cloth("cloth 2;person 9");
+        FoldDeeds x = Told.clothOf("cloth 2;person 9");
         due(23, "last(2)", x.last(2), -1);
         due(23, "last(-1)", x.last(-1), -1);
         x.fold(0, 0, 0, 0);
@@ -583,23 +557,23 @@ public final class PromiseTest {
     }
 
     private static void dearestFold() {
-        FoldDeeds x = cloth(FOUR);
+        FoldDeeds x = Told.clothOf(FOUR);
         due(24, "dearest(0, 0)", x.dearest(0, 0), 7);
         due(24, "dearest(0, 1)", x.dearest(0, 1), 0);
         due(24, "dearest(1, 0)", x.dearest(1, 0), 5);
         due(24, "dearest(1, 1)", x.dearest(1, 1), 0);
         due(24, "dearest(2, 0)", x.dearest(2, 0), -1);
         due(24, "dearest(0, 2)", x.dearest(0, 2), -1);
-        x = cloth("cloth 3;person 0;worth 0 50;crease 1 2");
+        x = Told.clothOf("cloth 3;person 0;worth 0 50;crease 1 2");
         due(24, "dearest(0, 0)", x.dearest(0, 0), 51);
         due(24, "dearest(0, 1)", x.dearest(0, 1), 7);
     }
 
     private static void logs() {
-        FoldDeeds x = cloth(FOUR);
-        tellRule(x, "price worth*2");
-        tellRule(x, "price 3");
-        tellRule(x, "price worth if owner < 0");
+        FoldDeeds x = Told.clothOf(FOUR);
+        Told.rule(x, "price worth*2");
+        Told.rule(x, "price 3");
+        Told.rule(x, "price worth if owner < 0");
         due(26, "ruled(0)", x.ruled(0), 4);
         due(26, "ruled(1)", x.ruled(1), -1);
         due(27, "look(0)", x.look(0), 0);
@@ -633,25 +607,25 @@ public final class PromiseTest {
         due(25, "an eleventh", x.log(0, 0, 0, 0), -2);
         due(25, "log(NONE, 9, 9, -9)", x.log(-1, 9, 9, -9), 0);
         due(30, "LOGS", x.count(8), 0);
-        x = cloth("cloth 3;crease 0 2");
+        x = Told.clothOf("cloth 3;crease 0 2");
         due(25, "log without a PERSON", x.log(0, 0, 1, 0), -2);
         due(26, "ruled(0) without a PERSON", x.ruled(0), 1);
         due(27, "look(0) without a PERSON", x.look(0), -2);
-        x = cloth("cloth 3;person 9;crease 0 2;owner 1 0;owner 2 0");
-        tellRule(x, "price worth + cell");
+        x = Told.clothOf("cloth 3;person 9;crease 0 2;owner 1 0;owner 2 0");
+        Told.rule(x, "price worth + cell");
         due(27, "look(0) of costs alike", x.look(0), 0);
         due(27, "look(1) of costs alike", x.look(1), 2);
         x.log(0, 0, 0, 0);
         due(26, "a FOLD that can't be", x.ruled(0), 0);
-        x = cloth("cloth 3;person 9;crease 0 2");
-        tellRule(x, "price worth + cell");
+        x = Told.clothOf("cloth 3;person 9;crease 0 2");
+        Told.rule(x, "price worth + cell");
         due(27, "look(0) past a FOLD that can't be", x.look(0), 1);
         due(27, "look(1) past a FOLD that can't be", x.look(1), 1);
     }
 
     /** By seed 0 draws are 0, 21468, 9988, 22117, 3498, 16927, 16045, 19741, 12122, 8410, 12261, 27052, 5659, .. */
     private static void drawing() {
-        FoldDeeds x = cloth("cloth 2;person 5");
+        FoldDeeds x = Told.clothOf("cloth 2;person 5");
         due(29, "days(1, 1, 0)", x.days(1, 1, 0), 1);
         due(29, "days(1, 4, 0)", x.days(1, 4, 0), 2);
         due(29, "days(1, 4, 1)", x.days(1, 4, 1), 1);
@@ -668,13 +642,13 @@ public final class PromiseTest {
         due(28, "seed(2147483647)", x.seed(Integer.MAX_VALUE), 0);
         due(28, "seed(5)", x.seed(5), Integer.MAX_VALUE);
         due(30, "x", x.count(10), 5);
-        x = cloth("cloth 5");
+        x = Told.clothOf("cloth 5");
         due(29, "days without PEOPLE", x.days(10, 30, 0), 0);
         due(29, "days without PEOPLE", x.days(10, 30, 1), 0);
     }
 
     private static void counting() {
-        FoldDeeds x = cloth(FOUR);
+        FoldDeeds x = Told.clothOf(FOUR);
         due(30, "CELLS", x.count(0), 4);
         due(30, "PEOPLE", x.count(1), 2);
         due(30, "WIDTH", x.count(2), 4);
@@ -684,8 +658,8 @@ public final class PromiseTest {
     }
 
     private static void imaging() {
-        FoldDeeds x = cloth(FOUR);
-        tellRule(x, "price 1");
+        FoldDeeds x = Told.clothOf(FOUR);
+        Told.rule(x, "price 1");
         x.force(0);
         x.mark(0, 2);
         x.log(0, 0, 0, 3);
@@ -702,10 +676,10 @@ public final class PromiseTest {
         x.seed(1);
         x.open();
         x.fold(1, 1, 0, 0);
-        tellRule(x, "price 2");
-        put(x, "cloth 7;worth 1 7");
+        Told.rule(x, "price 2");
+        Told.put(x, "cloth 7;worth 1 7");
         x.cloth();
-        put(x, "abc");
+        Told.put(x, "abc");
         due(31, "image(0)", x.image(0), 0);
         for (int i = 0; i < 2; i++) {
             due(32, "back(3)", x.back(3), 1);
