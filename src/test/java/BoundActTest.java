@@ -123,6 +123,35 @@ public final class BoundActTest {
         S.due("thick(2) of it", x.thick(2), -1);
     }
 
+    private static void layers() {
+        S.test(10, "The CLOTH lies on PLACES 0 to WIDTH less 1, CELLS above one another in LAYERS (0 the lowest on its"
+                + " PLACE), each face up or face down.");
+        for (int row = 0; row < 28 * 24; row++) {
+            FoldDeeds x = Told.clothOf("cloth 8;person 99");
+            x.fold(0, row / 4 % 7, row / 2 % 2, row % 2);
+            liesWhole(x);
+            x.fold(0, row / 28 / 4, row / 28 / 2 % 2, row / 28 % 2);
+            liesWhole(x);
+        }
+    }
+
+    /** Each PLACE has CELLS, one on each of its LAYERS, and there is no CELL elsewhere. */
+    private static void liesWhole(FoldDeeds x) {
+        int width = x.count(2);
+        int[] seen = new int[9];
+        for (int c = 0; c < 8; c++) {
+            int place = x.cell(c, 0);
+            S.due("whether CELL " + c + " lies on a PLACE", place >= 0 && place < width ? 1 : 0, 1);
+            seen[place] |= 1 << x.cell(c, 1);
+            S.due("whether it has a face", x.cell(c, 2) & ~1, 0);
+        }
+        for (int p = 0; p < width; p++) {
+            S.due("LAYERS on PLACE " + p + ", as bits", seen[p], (1 << x.thick(p)) - 1);
+            S.due("whether there are any", x.thick(p) > 0 ? 1 : 0, 1);
+        }
+        S.due("thick behind them", x.thick(width), -1);
+    }
+
     private static void foldLies() {
         S.test(11, "A FOLD at a PLACE p (0 to WIDTH less 2) is along the line between PLACES p and p + 1");
         int[][] asks = {{-1, -1}, {0, 4}, {3, 1}, {4, -1}, {5, -1}, {MIN, -1}, {MAX, -1}};
@@ -561,6 +590,7 @@ public final class BoundActTest {
         joint();
         person();
         thick();
+        layers();
         foldLies();
         foldCreases();
         foldSells();

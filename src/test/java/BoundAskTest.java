@@ -132,8 +132,33 @@ public final class BoundAskTest {
             S.due("stacks(" + what + ") without a CLOTH", new FoldDeeds().stacks(what), -3);
         }
 
+        S.test(19, "STACKS: in how many ways all CELLS can lie in one stack on one PLACE, CELL 0 face up, each next CELL"
+                + " turned over at its JOINT, no two JOINTS of one side across one another (JOINTS of even numbers"
+                + " are on one side, of odd ones on the other;");
+        for (int kinds = 0; kinds < 81; kinds++) {
+            int[] row = {kinds % 3, kinds / 3 % 3, kinds / 9 % 3, kinds / 27 % 3};
+            S.due("stacks(NONE) by MARKS " + row[0] + row[1] + row[2] + row[3], marked(5, row).stacks(-1), stacksOf(row));
+        }
+
+        S.test(19, "How many; the first (the CELL in LAYER 0, then 1, ..: least numbers first); LAYERS in which a CELL"
+                + " can lie, as bits.");
+        FoldDeeds x = marked(5, 1, 2, 0, 1);
+        S.due("stacks(NONE): 01243 01432 04123 40123 43012", x.stacks(-1), 5);
+        int[] least = {0, 1, 2, 4, 3};
+        int[] bits = {1 + 2 + 4, 2 + 4 + 8, 4 + 8 + 16, 2 + 8 + 16, 1 + 2 + 4 + 8};
+        for (int i = 0; i < 5; i++) {
+            S.due("stacks(" + i + ")", x.stacks(i), least[i]);
+            S.due("stacks(" + (10 + i) + ")", x.stacks(10 + i), bits[i]);
+        }
+        for (int cells = 2; cells <= 8; cells++) {
+            Told.cloth(x, "cloth " + cells);
+            S.due("stacks(NONE) of " + cells + " behind another CLOTH", x.stacks(-1), many[cells - 2]);
+            S.due("richest(0) behind it", x.richest(0), Told.clothOf("cloth " + cells).richest(0));
+            S.due("peek(1) behind it", x.peek(1), Told.clothOf("cloth " + cells).peek(1));
+        }
+
         S.test(19, "two of one side are, if just one of the two CELLS of the one lies between the two of the other");
-        FoldDeeds x = marked(4, 1, 1, 1);
+        x = marked(4, 1, 1, 1);
         S.due("stacks(NONE): not 0 2 1 3, not 2 0 3 1", x.stacks(-1), 3);
         int[] first = {0, 2, 3, 1};
         int[] layers = {1 + 2 + 4, 4 + 8, 1 + 2, 2 + 4 + 8};
@@ -164,10 +189,49 @@ public final class BoundAskTest {
         }
     }
 
+    /** Each order of five CELLS, looked at by itself. */
+    private static int stacksOf(int[] marks) {
+        int many = 0;
+        for (int order = 0; order < 3125; order++) {
+            int[] layer = {order % 5, order / 5 % 5, order / 25 % 5, order / 125 % 5, order / 625};
+            if (allDiffer(layer) && fits(layer, marks) && !across(layer, 0, 2) && !across(layer, 1, 3)) {
+                many++;
+            }
+        }
+        return many;
+    }
+
+    private static boolean allDiffer(int[] layer) {
+        int seen = 0;
+        for (int at : layer) {
+            seen |= 1 << at;
+        }
+        return seen == 31;
+    }
+
+    private static boolean fits(int[] layer, int[] marks) {
+        for (int j = 0; j < marks.length; j++) {
+            boolean valley = (layer[j + 1] > layer[j]) == (j % 2 == 0);
+            if (marks[j] != 0 && marks[j] != (valley ? 1 : 2)) {
+                return false;
+            }
+        }
+        return true;
+    }
+
+    private static boolean across(int[] layer, int one, int other) {
+        int low = Math.min(layer[one], layer[one + 1]);
+        int high = Math.max(layer[one], layer[one + 1]);
+        boolean first = layer[other] > low && layer[other] < high;
+        boolean second = layer[other + 1] > low && layer[other + 1] < high;
+        return first != second;
+    }
+
     private static void peek() {
         S.test(20, "PEEK: the CELL by whose LAYER these part best (the most alike are fewest; of several the least);"
                 + " how many.");
-        int[][] asks = {{0, 0, 0, 2}, {1, 0, 2, 1}, {2, 0, 2, 1}, {0, 1, 0, 1}, {0, 2, 0, 1}, {1, 1, 0, 1}, {1, 2, 0, 1}};
+        int[][] asks = {{0, 0, 0, 2}, {1, 0, 2, 1}, {2, 0, 2, 1}, {0, 1, 0, 1}, {0, 2, 0, 1}, {1, 1, 0, 1},
+            {1, 2, 0, 1}};
         for (int[] a : asks) {
             FoldDeeds x = marked(3, a[0], a[1]);
             S.due("peek(0) by MARKS " + a[0] + " and " + a[1], x.peek(0), a[2]);
@@ -175,6 +239,8 @@ public final class BoundAskTest {
         }
         S.due("peek(0) of two CELLS", marked(2).peek(0), 0);
         S.due("peek(1) of two CELLS", marked(2).peek(1), 1);
+        S.due("peek(0) by MARKS 1, 2, 0 and 1", marked(5, 1, 2, 0, 1).peek(0), 1);
+        S.due("peek(1) by MARKS 1, 2, 0 and 1", marked(5, 1, 2, 0, 1).peek(1), 2);
         S.due("peek(0) of one stack", marked(4, 1, 2, 1).peek(0), 0);
         S.due("peek(1) of one stack", marked(4, 1, 2, 1).peek(1), 1);
 
@@ -202,6 +268,7 @@ public final class BoundAskTest {
             FoldDeeds x = marked(cells, 2);
             S.due("richest(0) of " + cells, x.richest(0), most);
             S.due("richest(1) of " + cells, x.richest(1), best);
+            S.due("richest(0) of " + cells + ", asked again", x.richest(0), most);
         }
         S.due("richest(0) of three", marked(3, 1, 2).richest(0), 2);
         S.due("richest(1) of three, of two rows", marked(3, 1, 2).richest(1), 0);
@@ -276,6 +343,13 @@ public final class BoundAskTest {
         owned(Told.clothOf("cloth 3;person 2"), 0, 6, 0);
         owned(Told.clothOf("cloth 3;person 1"), 0, 4, 4);
         ownedByNone(Told.clothOf("cloth 3;person 1"), 0, 6);
+        owned(Told.clothOf("cloth 2;person 1;crease 0 1"), 0, 2, 0);
+        owned(Told.clothOf("cloth 2;person 1;crease 0 2"), 0, 2, 1);
+        x = Told.clothOf("cloth 4;person 9;person 9;crease 0 1;crease 2 1");
+        x.fold(0, 1, 0, 0);
+        owned(x, 0, 4 + 8);
+        ownedByNone(x, 0, 1);
+        ownedByNone(x, 1, 4);
 
         S.test(22, "OWN what NONE: how many, 0 to 2: the FOLD of that number, as in FOLDS (-2: so many there are not);"
                 + " -2: by none. -3 without these.");
@@ -386,6 +460,15 @@ public final class BoundAskTest {
         S.due("ruled(0): it cost PERSON 0 that, as the text told it", x.ruled(0), 1);
         Told.force(x, "price purse*2+day+layer-93");
         S.due("ruled(0): by 50 coins, DAY 0 and LAYER 0, too", x.ruled(0), 2);
+        for (int fold = 0; fold < 12; fold++) {
+            x = Told.clothOf("cloth 4;person 9;worth 0 20");
+            Told.rule(x, "price 1000-cell-10*way-200*place");
+            int cost = costOf(fold);
+            x.log(fold / 4, fold / 2 % 2, fold % 2, cost);
+            S.due("ruled(1) by the cost of FOLD " + fold, x.ruled(1), 0);
+            x.log(fold / 4, fold / 2 % 2, fold % 2, cost + 1);
+            S.due("ruled(1) by another cost of FOLD " + fold, x.ruled(1), -2);
+        }
 
         S.test(25, "-2, and nothing happens, without these (PLACE 0 to CELLS less 2), without a PERSON, or if there are"
                 + " 10.");
@@ -405,6 +488,17 @@ public final class BoundAskTest {
         S.due("log(1, 0, 0, 0) of two CELLS", Told.clothOf("cloth 2;person 1").log(1, 0, 0, 0), -2);
         S.due("log(6, 0, 0, 0) of eight CELLS", Told.clothOf("cloth 8;person 1").log(6, 0, 0, 0), 1);
         S.due("log(7, 0, 0, 0) of eight CELLS", Told.clothOf("cloth 8;person 1").log(7, 0, 0, 0), -2);
+    }
+
+    /** By 'price 1000-cell-10*way-200*place' for one whose is no CELL. */
+    private static int costOf(int fold) {
+        int sum = 0;
+        for (int c = 0; c < 4; c++) {
+            if ((c > fold / 4) == (fold / 2 % 2 == 0)) {
+                sum += Math.min(999, 1000 - c - 10 * (fold % 2) - 200 * c);
+            }
+        }
+        return sum;
     }
 
     private static void ruled() {
@@ -492,6 +586,18 @@ public final class BoundAskTest {
         S.due("look(1), none can be", x.look(1), 2);
         x.fold(0, 0, 0, 1);
         S.due("look(0) of the CLOTH as the text told it", x.look(0), 0);
+        x = Told.clothOf("cloth 4;person 0");
+        Told.rule(x, "price 2");
+        Told.rule(x, "price 4 if cell=2;price 2 if cell=1");
+        x.log(0, 0, 0, 6);
+        S.due("look(0), none being not so", x.look(0), 2);
+        S.due("look(1), none being not so", x.look(1), 1);
+        x = Told.clothOf("cloth 4;person 0");
+        for (int i = 0; i < 6; i++) {
+            Told.rule(x, "price 3-cell/" + (i < 5 ? 3 : 2));
+        }
+        S.due("look(0) by six RULES", x.look(0), 0);
+        S.due("look(1) by six RULES", x.look(1), 5);
         x = Told.clothOf("cloth 2;person 9");
         S.due("look(0) of two CELLS", x.look(0), 0);
         S.due("look(1) of two CELLS", x.look(1), 1);

@@ -80,6 +80,8 @@ public final class BoundClothTest {
         x.end(6);
         S.due("feed behind 6 bytes", x.feed(0x38202020, 0x20202020, 0x20202020, 0x20202020, 0x20202020), 26);
         S.due("cloth() of 'cloth ' and '8'", x.cloth(), 8);
+        cutAt("cloth 00003;person 999;person 12;owner 2 1;crease 1 2;worth 0 99", true);
+        cutAt("price 1+cell*12345 if not [1<=22 or way=0] and 1>=1;price 12", false);
 
         S.test(3, "NONE, and nothing happens, if it has not so many, or n is below 0.");
         S.refused("end(17) of 16 bytes", o -> o.end(17), -1);
@@ -90,6 +92,19 @@ public final class BoundClothTest {
         S.refused("end(401) of 400 bytes", o -> Told.put(o, clothOfBytes(400)), o -> o.end(401), -1);
         S.refused("end(20), behind which 20 bytes were", o -> { o.feed(0, 0, 0, 0, 0); o.end(19); }, o -> o.end(20), -1);
         S.due("end(0) of an empty TAPE", new FoldDeeds().end(0), 0);
+    }
+
+    /** What stood behind the cut is never read: each beginning of a text is as if it had come alone. */
+    private static void cutAt(String text, boolean isCloth) {
+        for (int n = 0; n <= text.length(); n++) {
+            FoldDeeds cut = new FoldDeeds();
+            FoldDeeds alone = new FoldDeeds();
+            Told.put(cut, text);
+            cut.end(n);
+            Told.put(alone, text.substring(0, n));
+            S.due("what '" + text.substring(0, n) + "' is, cut off", isCloth ? cut.cloth() : cut.rule(),
+                    isCloth ? alone.cloth() : alone.rule());
+        }
     }
 
     private static void cloth() {
@@ -115,6 +130,12 @@ public final class BoundClothTest {
         S.due("back(0): an IMAGE of the first CLOTH", x.back(0), 0);
         S.due("CELLS then", x.count(0), 5);
         S.due("LOGS then", x.count(8), 1);
+        String full = "cloth2" + ";person1".repeat(4) + ";worth0 1".repeat(35);
+        for (int i = 0; i < 3; i++) {
+            S.due("a CLOTH of 40 CLAUSES and 4 PEOPLE behind another one", Told.cloth(x, full), 2);
+            S.due("one CLAUSE too many", Told.cloth(x, full + ";worth0 1"), Told.fault(full.length() + 1, 4));
+            S.due("PEOPLE", x.count(1), 4);
+        }
 
         S.test(4, "-2 - its FAULT, and all stays.");
         String[] texts = {"cloth 9", "cloth 3;person 7;person 7;owner 0 2", "cloth 8;person 9;crease 7 1", "", "price 1"};
@@ -291,6 +312,13 @@ public final class BoundClothTest {
         fault("cloths 2", 0, 0);
         fault("clot 2", 0, 0);
         fault("Cloth 2", 0, 0);
+        fault("clotha 2", 0, 0);
+        fault("clothz 2", 0, 0);
+        fault("cloth`2", 5, 0);
+        fault("cloth{2", 5, 0);
+        fault("cloth/2", 5, 0);
+        fault("cloth 2/", 7, 0);
+        fault("cloth 2:", 7, 0);
         fault("cloth 2;worth 0 x", 16, 0);
         fault("cloth 2;worth 0;", 15, 0);
         fault("cloth 2;price 1", 8, 0);

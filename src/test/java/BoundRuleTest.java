@@ -133,6 +133,10 @@ public final class BoundRuleTest {
         S.due("the first whose TEST holds", price("price 3 if 1=2;price 4 if 1=1;price 5"), 4);
         S.due("one without a TEST behind those", price("price 3 if 1=2;price 4 if 2=1;price 5;price 6"), 5);
         S.due("without", price("price 3 if 1=2;price 4 if 2=1"), 0);
+        FoldDeeds x = Told.clothOf("cloth 2;person 9");
+        Told.rule(x, "price 1 if 1=2;price 2 if 1=2;price 7");
+        Told.force(x, "price 3 if 1=2");
+        S.due("without, behind a longer RULE", x.cost(0, 0, 0, 0), 0);
 
         S.test(5, "held to 0 to 999");
         sum("0 - 99999*99999*99999", 0);
@@ -180,6 +184,14 @@ public final class BoundRuleTest {
                 holds(left + signs[i] + "7", due[i][left - 6]);
             }
         }
+        for (String sign : new String[] {"6<7", "7<=7", "7=7", "7>=7", "8>7"}) {
+            holds("not " + sign, false);
+            holds("not not " + sign, true);
+            holds(sign + " and " + sign, true);
+            holds(sign + " and 1=1", true);
+            holds(sign + " and 1=2", false);
+            holds("1=2 or " + sign, true);
+        }
         holds("0-99999*99999*99999*9000 < 99999*99999*99999*9000", true);
         holds("not 1=2", true);
         holds("not 1=1", false);
@@ -191,6 +203,9 @@ public final class BoundRuleTest {
         holds("[1=1 or 1=1] and 1=2", false);
         holds("[[1=1]]", true);
         fault("price 1 if 1", 12, 0);
+        fault("price 1 if 1 1", 13, 0);
+        fault("price 1 if cell 1=1", 16, 0);
+        fault("price 1 if 1 cell", 13, 0);
         fault("price 1 if 1=", 13, 0);
         fault("price 1 if =1", 11, 0);
         fault("price 1 if 1==1", 13, 0);
@@ -318,6 +333,12 @@ public final class BoundRuleTest {
         word(2, "buyer", 1, 1);
         word(2, "buyer+1", 0, 1);
         fault("price cells", 6, 0);
+        fault("price cella", 6, 0);
+        fault("price cellz", 6, 0);
+        fault("price cell`", 10, 0);
+        fault("price cell{", 10, 0);
+        fault("price 1/", 8, 0);
+        fault("price 1:", 7, 0);
         fault("price cel", 6, 0);
         fault("price Cell", 6, 0);
         fault("price cellworth", 6, 0);
@@ -407,6 +428,11 @@ public final class BoundRuleTest {
         text("price 1" + ";price 1".repeat(10) + ";price 1" + "+1".repeat(48), 0);
         fault("price 1" + ";price 1".repeat(10) + ";price 1" + "+1".repeat(49), 7 + 80 + 8 + 2 * 48 + 1, 3);
         S.due("cost by sixty VALUES", price("price 1" + "+1".repeat(59)), 60);
+        FoldDeeds x = new FoldDeeds();
+        for (int i = 0; i < 6; i++) {
+            S.due("sixty-one of one RULE", Told.rule(x, "price 1" + "+1".repeat(60)), Told.fault(6 + 120, 3));
+            S.due("sixty of RULE " + i, Told.rule(x, "price 1" + "+1".repeat(59)), i);
+        }
     }
 
     private static String nested(String opens, int times, String closes) {
@@ -480,6 +506,8 @@ public final class BoundRuleTest {
         fault("price 1" + "+1".repeat(59) + "+x", 6 + 120, 0);
         fault("price 1" + "+1".repeat(59) + "+", 6 + 120, 0);
         fault("price 1" + "+1".repeat(58) + " if 1~1", 7 + 116 + 5, 0);
+        fault("price 1" + "+1".repeat(58) + " if 1", 7 + 116 + 5, 0);
+        fault("price 1" + "+1".repeat(58) + " if 1 1", 7 + 116 + 6, 0);
         fault(twelve + ";x", twelve.length() + 1, 0);
         fault(twelve + ";", twelve.length() + 1, 0);
         fault(twelve + ";prices 1", twelve.length() + 1, 0);
